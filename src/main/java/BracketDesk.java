@@ -96,7 +96,12 @@ public final class BracketDesk {
         if (!tape.tellsFigure(n)) {
             return badText();
         }
-        return keepText(s, figures.workOut(tape, n, work));
+        figures.begin();
+        int reason = FINE;
+        for (int i = 0; i < n && reason == FINE; i++) {
+            reason = figures.take(tape.bytes[i]);
+        }
+        return keepText(s, reason == FINE ? figures.makeFigure(work) : reason);
     }
 
     public int fault(int what) {
@@ -197,7 +202,7 @@ public final class BracketDesk {
         if (!isShelf(s) || !isShelf(a)) {
             return NO_SUCH;
         }
-        return keep(s, straighten(a, work));
+        return keep(s, straightener.straighten(now.shelves[a], work));
     }
 
     public int reduce(int s, int a) {
@@ -287,7 +292,7 @@ public final class BracketDesk {
         if (!isShelf(s)) {
             return NO_SUCH;
         }
-        int reason = straighten(s, work);
+        int reason = straightener.straighten(now.shelves[s], work);
         return reason == FINE ? straightener.steps : refused(reason);
     }
 
@@ -296,7 +301,7 @@ public final class BracketDesk {
         if (!isShelf(s)) {
             return NO_SUCH;
         }
-        int reason = straighten(s, work);
+        int reason = straightener.straighten(now.shelves[s], work);
         return reason == FINE ? work.size : refused(reason);
     }
 
@@ -305,9 +310,9 @@ public final class BracketDesk {
         if (!isShelf(s) || !isShelf(a)) {
             return NO_SUCH;
         }
-        int reason = straighten(s, work);
+        int reason = straightener.straighten(now.shelves[s], work);
         if (reason == FINE) {
-            reason = straighten(a, other);
+            reason = straightener.straighten(now.shelves[a], other);
         }
         if (reason != FINE) {
             return refused(reason);
@@ -342,7 +347,7 @@ public final class BracketDesk {
         elimination.begin();
         for (int s = 0; s < SHELVES; s++) {
             if ((some >> s & 1) == 1) {
-                int reason = straighten(s, work);
+                int reason = straightener.straighten(now.shelves[s], work);
                 if (reason != FINE) {
                     return refused(reason);
                 }
@@ -361,7 +366,7 @@ public final class BracketDesk {
         if (shelf.size == 0 || !factors.takeLetters(shelf.keys[0])) {
             return 0;
         }
-        int reason = straighten(s, work);
+        int reason = straightener.straighten(now.shelves[s], work);
         if (reason != FINE) {
             return refused(reason);
         }
@@ -376,7 +381,7 @@ public final class BracketDesk {
         if (!isShelf(s)) {
             return NO_SUCH;
         }
-        int reason = straighten(s, work);
+        int reason = straightener.straighten(now.shelves[s], work);
         if (reason != FINE) {
             return refused(reason);
         }
@@ -520,11 +525,6 @@ public final class BracketDesk {
         return reason == NUMBER ? NO_INT : TOO_MANY;
     }
 
-    private int straighten(int s, Poly result) {
-        result.take(now.shelves[s]);
-        return straightener.straighten(result);
-    }
-
     private int rename(Poly from, int p, int q, boolean both) {
         work.empty();
         int reason = FINE;
@@ -557,11 +557,13 @@ public final class BracketDesk {
             if (a == b || a == c || b == c) {
                 return 0;
             }
-            int low = Math.min(a, Math.min(b, c));
-            int high = Math.max(a, Math.max(b, c));
-            int bracket = row(low, a + b + c - low - high, high);
-            boolean turned = a > b ^ a > c ^ b > c;
-            return turned ? -bracket : bracket;
+            int low = a < b ? a : b;
+            low = low < c ? low : c;
+            int high = a > b ? a : b;
+            high = high > c ? high : c;
+            int bracket = low << 8 | a + b + c - low - high << 4 | high;
+            int turns = (a > b ? 1 : 0) + (a > c ? 1 : 0) + (b > c ? 1 : 0);
+            return turns % 2 == 0 ? bracket : -bracket;
         }
 
         /** Gives each bracket a number of its own, 0 to 119. */
@@ -801,13 +803,9 @@ public final class BracketDesk {
         /** Where the first key is that isn't below this one. */
         private int find(long key) {
             int low = 0;
-            int high = size;
-            while (low < high) {
-                int middle = low + high >> 1;
-                if (keys[middle] < key) {
-                    low = middle + 1;
-                } else {
-                    high = middle;
+            for (int stride = 64; stride > 0; stride >>= 1) {
+                if (low + stride <= size && keys[low + stride - 1] < key) {
+                    low += stride;
                 }
             }
             return low;
@@ -819,19 +817,26 @@ public final class BracketDesk {
         int steps = 0;
         private final Term term = new Term();
 
-        /** Straightens a polynomial in its place; answers why it can't be, or FINE. */
-        int straighten(Poly p) {
+        /** Makes the result what another polynomial is once straight; answers why it can't be, or FINE. */
+        int straighten(Poly from, Poly result) {
+            result.take(from);
             steps = 0;
-            int last = lastBroken(p, p.size - 1);
+            int last = lastBroken(result, result.size - 1);
             while (last >= 0 && steps < MOST_STEPS) {
                 // A step puts only terms ahead of the one that goes: those behind stay standard.
-                int behind = p.size - 1 - last;
-                int reason = step(p, last);
+                int behind = result.size - 1 - last;
+                long key = result.keys[last];
+                int broken = Rows.breakOf(key);
+                int at = Rows.bracketOfBreak(broken);
+                int x = Rows.bracketAt(key, at);
+                int y = Rows.bracketAt(key, at + 1);
+                long less = -(long) result.numbers[last];
+                int reason = layExchange(result, x, y, Rows.placeOfBreak(broken), Rows.withoutTwo(key, at), less);
                 if (reason != FINE) {
                     return reason;
                 }
                 steps++;
-                last = lastBroken(p, p.size - 1 - behind);
+                last = lastBroken(result, result.size - 1 - behind);
             }
             return last >= 0 ? STEPS : FINE;
         }
@@ -871,16 +876,6 @@ public final class BracketDesk {
             term.attach(first);
             term.attach(second << behindOfY | y & (1 << behindOfY) - 1);
             return (changes & 1) == 0 ? 1 : -1;
-        }
-
-        private int step(Poly p, int i) {
-            long key = p.keys[i];
-            int broken = Rows.breakOf(key);
-            int at = Rows.bracketOfBreak(broken);
-            int x = Rows.bracketAt(key, at);
-            int y = Rows.bracketAt(key, at + 1);
-            long others = Rows.withoutTwo(key, at);
-            return layExchange(p, x, y, Rows.placeOfBreak(broken), others, -(long) p.numbers[i]);
         }
 
         private static int lastBroken(Poly p, int from) {
@@ -1055,31 +1050,19 @@ public final class BracketDesk {
         }
     }
 
-    /** A point: a sum of letters, each with a polynomial. */
-    static final class Point {
-        final Poly[] of = new Poly[LETTERS];
-
-        Point() {
-            for (int i = 0; i < LETTERS; i++) {
-                of[i] = new Poly();
-            }
-        }
-
-        void empty() {
-            for (int i = 0; i < LETTERS; i++) {
-                of[i].empty();
-            }
-        }
-    }
-
-    /** Works out figures by a stack of points. */
+    /**
+     * Works out figures by a stack of points. A point is a sum of letters, each with a polynomial:
+     * ten polynomials in a row, told by where the first of them is.
+     */
     static final class Figures {
-        /** Two points of the figure, three of its third, four of the fourth of these. */
+        /** Two points of the figure, three of its third one, four of the fourth of these. */
         private static final int MOST_POINTS = 9;
 
-        private final Point[] stack = new Point[MOST_POINTS];
+        private final Poly[] polys = new Poly[LETTERS * (MOST_POINTS + 1)];
+        private final int[] stack = new int[MOST_POINTS];
         private int top = 0;
-        private Point spare = new Point();
+        /** A point that isn't on the stack. */
+        private int spare = LETTERS * MOST_POINTS;
         private final Poly first = new Poly();
         private final Poly second = new Poly();
         private final Poly firstBracket = new Poly();
@@ -1087,52 +1070,38 @@ public final class BracketDesk {
         private final Term term = new Term();
 
         Figures() {
+            for (int i = 0; i < polys.length; i++) {
+                polys[i] = new Poly();
+            }
             for (int i = 0; i < MOST_POINTS; i++) {
-                stack[i] = new Point();
+                stack[i] = LETTERS * i;
             }
         }
 
-        /** Works out a figure's text that has no fault; answers why it can't be, or FINE. */
-        int workOut(Tape tape, int n, Poly result) {
+        void begin() {
             top = 0;
-            int reason = FINE;
-            for (int i = 0; i < n && reason == FINE; i++) {
-                int b = tape.bytes[i];
-                if (Tape.isLetterByte(b)) {
-                    push(b - 'a');
-                } else if (b == ')') {
-                    reason = meetOfTopFour();
-                }
-            }
-            result.empty();
-            if (reason != FINE || top < 3) {
-                return reason;
-            }
-            return layBracket(result, stack[0], stack[1], stack[2]);
         }
 
-        private void push(int letter) {
-            if (top < MOST_POINTS) {
-                stack[top].empty();
-                stack[top].of[letter].lay(0L, 1L);
+        /** Works out what stands as a byte of a text without fault is read; answers why it can't be, or FINE. */
+        int take(int b) {
+            if (Tape.isLetterByte(b) && top < MOST_POINTS) {
+                empty(stack[top]);
                 top++;
+                return polys[stack[top - 1] + b - 'a'].lay(0L, 1L);
             }
-        }
-
-        private int meetOfTopFour() {
-            if (top < 4) {
+            if (b != ')' || top < 4) {
                 return FINE;
             }
-            Point p = stack[top - 4];
-            Point q = stack[top - 3];
-            firstBracket.empty();
-            int reason = layBracket(firstBracket, p, stack[top - 2], stack[top - 1]);
+            int p = stack[top - 4];
+            int q = stack[top - 3];
+            int r = stack[top - 2];
+            int s = stack[top - 1];
+            int reason = makeBracket(firstBracket, p, r, s);
             if (reason == FINE) {
-                secondBracket.empty();
-                reason = layBracket(secondBracket, q, stack[top - 2], stack[top - 1]);
+                reason = makeBracket(secondBracket, q, r, s);
             }
             if (reason == FINE) {
-                reason = meet(p, q);
+                reason = makeSpare(p, q);
             }
             stack[top - 4] = spare;
             spare = p;
@@ -1140,52 +1109,60 @@ public final class BracketDesk {
             return reason;
         }
 
+        /** Makes the result the bracket of the three points that stand. */
+        int makeFigure(Poly result) {
+            return makeBracket(result, stack[0], stack[1], stack[2]);
+        }
+
+        private void empty(int point) {
+            for (int i = 0; i < LETTERS; i++) {
+                polys[point + i].empty();
+            }
+        }
+
         /** Makes the spare point the first bracket times q, less the second one times p. */
-        private int meet(Point p, Point q) {
-            spare.empty();
+        private int makeSpare(int p, int q) {
+            empty(spare);
             int reason = FINE;
             for (int i = 0; i < LETTERS && reason == FINE; i++) {
-                reason = spare.of[i].layProduct(firstBracket, q.of[i]);
+                reason = polys[spare + i].layProduct(firstBracket, polys[q + i]);
             }
             for (int i = 0; i < LETTERS && reason == FINE; i++) {
                 first.empty();
-                reason = first.layProduct(secondBracket, p.of[i]);
+                reason = first.layProduct(secondBracket, polys[p + i]);
                 if (reason == FINE) {
-                    reason = spare.of[i].laySum(first, -1);
+                    reason = polys[spare + i].laySum(first, -1);
                 }
             }
             return reason;
         }
 
-        private int layBracket(Poly sum, Point p, Point q, Point r) {
+        /** Makes the result the bracket of three points. */
+        private int makeBracket(Poly result, int p, int q, int r) {
+            result.empty();
             int reason = FINE;
-            for (int a = 0; a < LETTERS && reason == FINE; a++) {
-                for (int b = 0; b < LETTERS && reason == FINE && p.of[a].size > 0; b++) {
-                    if (q.of[b].size > 0 && a != b) {
-                        reason = layBrackets(sum, a, p.of[a], b, q.of[b], r);
+            for (int a = 0; a < LETTERS; a++) {
+                if (polys[p + a].size == 0) {
+                    continue;
+                }
+                for (int b = 0; b < LETTERS; b++) {
+                    if (polys[q + b].size == 0 || a == b) {
+                        continue;
+                    }
+                    for (int c = 0; c < LETTERS && reason == FINE; c++) {
+                        if (polys[r + c].size != 0 && a != c && b != c) {
+                            term.begin(0L);
+                            term.attach(Rows.row(a, b, c));
+                            reason = layTimesThree(result, polys[p + a], polys[q + b], polys[r + c]);
+                        }
                     }
                 }
             }
             return reason;
         }
 
-        private int layBrackets(Poly sum, int a, Poly ofA, int b, Poly ofB, Point r) {
-            int reason = FINE;
-            for (int c = 0; c < LETTERS && reason == FINE; c++) {
-                if (r.of[c].size > 0 && a != c && b != c) {
-                    term.begin(0L);
-                    term.attach(Rows.row(a, b, c));
-                    reason = multiply(ofA, ofB, r.of[c]);
-                    if (reason == FINE) {
-                        reason = sum.laySum(second, 1);
-                    }
-                }
-            }
-            return reason;
-        }
-
-        /** The term times three polynomials, one by one. */
-        private int multiply(Poly x, Poly y, Poly z) {
+        /** Puts the term times three polynomials, one by one, to what there is. */
+        private int layTimesThree(Poly sum, Poly x, Poly y, Poly z) {
             first.empty();
             first.lay(term.key, term.sign);
             second.empty();
@@ -1198,7 +1175,7 @@ public final class BracketDesk {
                 second.empty();
                 reason = second.layProduct(first, z);
             }
-            return reason;
+            return reason == FINE ? sum.laySum(second, 1) : reason;
         }
     }
 
@@ -1367,12 +1344,13 @@ public final class BracketDesk {
                     many++;
                 }
             }
+            Poly two = new Poly();
             Poly p = new Poly();
             Straightener straightener = new Straightener();
             for (int beside = 0; beside < 32; beside++) {
-                p.empty();
-                p.lay(keyOf(beside), 1L);
-                straightener.straighten(p);
+                two.empty();
+                two.lay(keyOf(beside), 1L);
+                straightener.straighten(two, p);
                 for (int i = 0; i < p.size; i++) {
                     int form = formOf(p.keys[i]);
                     if (form != NONE) {
@@ -1495,7 +1473,7 @@ public final class BracketDesk {
             for (int i = 0; i < FORMS_OF_SIX; i++) {
                 int number = signs * straight[at + i] - lessSigns * straight[lessAt + i];
                 if (times == 0L && number != 0) {
-                    times = asked[i] / number;
+                    times = (long) asked[i] / number;
                     if (times == 0L) {
                         return false;
                     }
