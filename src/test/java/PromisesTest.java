@@ -283,6 +283,8 @@ public final class PromisesTest {
         due("others", d.fault(-1), NONE);
         tell(d, 0, "[abc");
         due("the end", d.fault(1), 4);
+        due("others", d.fault(2), NONE);
+        due("others", d.fault(-1), NONE);
         due("refused ahead of reading", d.told(0, 1), -3);
         due("refused ahead of reading", d.told(7, 0), -2);
         due("that of the latest that read", d.fault(1), 4);
@@ -967,6 +969,15 @@ public final class PromisesTest {
         tell(d, 1, "500[abc][abc][abc]+500[abc][abc][abc][abe]");
         d.place(4, 0, 0, 0);
         due("0 in time", d.value(1), 500L << 54);
+        d.place(3, 1, 0, 0);
+        d.place(4, 0, 1, 0);
+        d.place(5, 0, 0, -1);
+        d.place(6, 0, 1, 0);
+        d.place(7, 0, 0, 1);
+        tell(d, 1, "-511[abc][abc][abc][def]+[dgh]");
+        due("times -1", d.value(1), (511L << 54) + 1);
+        tell(d, 1, "-512[abc][abc][abc][def]+[dgh]");
+        due("-2^63 times -1 is none", d.value(1), NO_LONG);
     }
 
     private static void undo() {
