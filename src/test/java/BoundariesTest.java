@@ -210,6 +210,12 @@ public final class BoundariesTest {
                 "tell(1, 7) = 1", "straight(1, 0) = -4", "why() = 3", "show(1) = +7", "equal(0, 1) = -4",
                 "why() = 3", "equal(1, 0) = -4", "why() = 3", "rank(1) = -4", "why() = 3", "rank(62) = 1",
                 "why() = 0", "isFinal(0) = -4", "why() = 3", "factor(0, 0) = -4", "why() = 3");
+        Script.due("'(if some isn't then, it is refused, too)', the first TERM alone",
+                "tell(0, " + STEPS_900.replace("+[abc][def]", "") + ") = 12", "steps(0) = 900",
+                "tell(0, " + STEPS_900.replace("+[abc][def]", "+[abc][abc][abj][aci]") + ") = 13",
+                "term(0, 0, 2) = 0", "steps(0) = -4", "why() = 3", "left(0) = -4",
+                "tell(0, " + STEPS_900.replace("+[abc][def]", "+[abc][abc][abi][acj]") + ") = 13",
+                "term(0, 0, 2) = 1", "steps(0) = 900", "why() = 0");
         Script.due("'less n times EXCHANGE', - n at the ends of ints", "least(0, [abe][acd]) = " + MIN,
                 "straight(1, 0) = -7", "why() = 4", "tell(2, [abe][acd]) = 1", "add(0, 0, 1, 2, 1) = 1",
                 "straight(1, 0) = 2", "show(1) = +2147483647[abc][ade]-2147483647[abd][ace]",
@@ -373,6 +379,16 @@ public final class BoundariesTest {
                 "draw(0, ((ab^cd)e^fg)((ab^cd)e^fh)i) = -4", "why() = 2", "told(5, 0) = 0",
                 "draw(0, ((ab^cd)e^fg)((ab^cd)e^fh)(aa^bc)) = 0", "why() = 0",
                 "draw(0, ((ab^cd)e^fg)(ab^ab)((ab^cd)e^fh)) = 0", "draw(0, (ab^cc)((ab^cd)e^fg)((ab^cd)e^fh)) = 0");
+        Script.due("'those that have a POLYNOMIAL with TERMS', ahead of a POLYNOMIAL of four BRACKETS",
+                "draw(0, ((ab^cd)e^(fg^hi)(aj^be))cd) = -4", "why() = 2", "told(5, 0) = 0",
+                "draw(0, ((ab^cd)e^(fg^hi)(aj^be))(aa^bc)d) = 0", "draw(0, ((ab^cd)e^(fg^hi)(aj^be))d(aa^bc)) = 0",
+                "draw(0, (aa^bc)((ab^cd)e^(fg^hi)(aj^be))d) = 0", "draw(0, d((ab^cd)e^(fg^hi)(aj^be))(aa^bc)) = 0",
+                "why() = 0", "draw(0, ((ab^cd)(ab^ce)^(fg^hi)(aj^be))(aa^bc)d) = -4", "why() = 2");
+        Script.due("'a POINT .. ( POINT POINT ^ POINT POINT )', as many that wait as there can be",
+                "draw(0, ab(cd^e(fg^hi))) = 4",
+                "show(0) = +1[abc][def][ghi]-1[abc][deg][fhi]-1[abd][cef][ghi]+1[abd][ceg][fhi]",
+                "draw(0, (cd^e(fg^hi))ab) = 4",
+                "show(0) = +1[abc][def][ghi]-1[abc][deg][fhi]-1[abd][cef][ghi]+1[abd][ceg][fhi]");
         Script.due("'if the BRACKET of these LETTERS isn't 0'", "draw(0, ((ab^cd)a^ef)((ab^cd)a^gh)a) = 0",
                 "draw(0, ((ab^cd)a^ef)((ab^cd)a^gh)b) = 0", "draw(0, b((ab^cd)a^ef)((ab^cd)a^gh)) = 0",
                 "draw(0, ((ab^cd)a^ef)b((ab^cd)a^gh)) = 0", "why() = 0", "draw(0, ((ab^cd)a^ef)((ab^cd)a^gh)c) = -4",

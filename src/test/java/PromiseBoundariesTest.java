@@ -17,6 +17,7 @@ public final class PromiseBoundariesTest {
         texts();
         faultAndWhy();
         shelves();
+        shelvesThatWereFull();
         sums();
         products();
         renamed();
@@ -244,7 +245,27 @@ public final class PromiseBoundariesTest {
                 "show(0) = +1[abc][def]-1[abd][cef]+1[acd][bef]-1[aef][bcd]", "exchange(0, 987, 654, 3) = 4",
                 "exchange(0, 789, 980, 1) = 0", "exchange(0, 1, 234, 1) = 0", "exchange(0, 0, 123, 3) = 0",
                 "exchange(0, 100, 23, 3) = 0", "exchange(0, 10, 23, 1) = 0", "exchange(0, 102, 345, 3) = 4",
-                "term(0, 0, 0) = -1");
+                "term(0, 0, 0) = -1", "exchange(0, 198, 765, 1) = 4",
+                "show(0) = -1[bfg][hij]+1[bhi][fgj]-1[bhj][fgi]+1[bij][fgh]", "exchange(0, 765, 198, 1) = 4",
+                "exchange(0, 201, 345, 1) = 4", "show(0) = +1[abc][def]-1[abd][cef]+1[acd][bef]-1[aef][bcd]",
+                "exchange(0, 345, 201, 3) = 4");
+    }
+
+    /** What a shelf had once is gone, also where a list inside would still have it. */
+    private static void shelvesThatWereFull() {
+        Script.due("7, 8 a SHELF that was full is empty", "many(0, 0, 80) = 80", "tell(1, [abe][acd]) = 1",
+                "add(1, 1, 1, 0, 1) = -4", "reduce(1, 0) = 80", "clear(0) = 80", "term(0, 0, 0) = " + MIN,
+                "term(0, 79, 0) = " + MIN, "degree(0, 0) = -1", "steps(0) = 0", "left(0) = 0", "forms(0) = -1",
+                "form(0, 0, 0) = -1", "rank(1) = 0", "factor(0, 0) = 0", "isFinal(0) = 0", "value(0) = 0",
+                "reduce(2, 0) = 0", "copy(2, 0) = 0", "times(2, 0, 1) = 0", "add(2, 0, 1, 0, 1) = 0",
+                "put(2, 0, 0, 1) = 0", "turn(2, 0, 0, 1) = 0", "straight(2, 0) = 0", "equal(0, 5) = 1",
+                "count(0) = 80");
+        Script.due("8, 16 a SHELF that was full has one TERM", "many(0, 0, 80) = 80", "tell(0, [abc]) = 1",
+                "term(0, 1, 0) = " + MIN, "degree(0, 0) = 1", "degree(0, 2) = 1", "left(0) = 1", "reduce(1, 0) = 1",
+                "fact(0, 1, 3, 0) = 2", "reduce(1, 0) = 1", "fact(0, 1, 2, 0) = 2", "reduce(1, 0) = 0", "rank(1) = 1",
+                "add(1, 0, 1, 0, 1) = 1", "times(1, 0, 0) = 1", "copy(1, 0) = 1", "show(1) = +1[abc]");
+        Script.due("28 a FIGURE that was there", "draw(0, (ab^cd)ef) = 2", "factor(0, 0) = 1", "clear(0) = 2",
+                "factor(0, 0) = 0", "factor(0, 1) = 0", "tell(0, [abc]) = 1", "factor(0, 1) = 0");
     }
 
     private static void sums() {
@@ -407,6 +428,15 @@ public final class PromiseBoundariesTest {
                 "tell(1, [abd][ace]) = 1", "tell(2, [abc][ade]) = 1", "rank(7) = 2", "rank(3) = 2", "rank(5) = 2",
                 "rank(6) = 2", "exchange(3, 14, 23, 3) = 3", "rank(8) = 0", "rank(15) = 2", "copy(3, 0) = 1",
                 "rank(9) = 1");
+        Script.due("27 'How many of some SHELVES', all of them full", "many(0, 1, 80) = 80", "tell(5, [abc]) = 1",
+                "times(1, 0, 5) = 80", "times(2, 1, 5) = 80", "times(3, 2, 5) = 80", "many(4, 81, 39) = 39",
+                "tell(5, 1+[abc]) = 2", "times(4, 4, 5) = 78", "tell(5, [abc]) = 1", "rank(63) = 6", "copy(5, 3) = 80",
+                "rank(63) = 5", "tell(5, 1) = 1", "rank(63) = 6", "tell(5, [hij][hij]) = 1", "rank(63) = 6",
+                "tell(0, [hij][hij][hij]) = 1", "rank(1) = 1", "rank(33) = 2", "rank(63) = 6");
+        Script.due("27 'How many of some SHELVES', what was asked before counts no more",
+                "tell(0, [abc]+[abd]+[abe]) = 3", "tell(1, [abc]+2[abd]+3[abe]) = 3",
+                "tell(2, [abc]+4[abd]+9[abe]) = 3", "rank(7) = 3", "tell(0, [abc]) = 1", "tell(1, [abc]) = 1",
+                "tell(2, [abd]+[abe]) = 2", "rank(7) = 2", "rank(3) = 1", "rank(6) = 2", "clear(2) = 2", "rank(7) = 1");
         Script.due("27 'all NUMBERS modulo 1000003'", "tell(0, 1000) = 1", "times(0, 0, 0) = 1", "tell(1, 3) = 1",
                 "add(1, 0, 1, 1, 1) = 1", "term(1, 0, 0) = 1000003", "rank(2) = 0", "tell(2, 1) = 1",
                 "add(3, 1, 1, 2, 1) = 1", "rank(8) = 1", "add(3, 1, 1, 2, -1) = 1", "rank(8) = 1",
@@ -447,11 +477,31 @@ public final class PromiseBoundariesTest {
                 "factor(0, 3) = 2", "factor(0, 4) = 5", "factor(0, 5) = 3", "factor(0, 6) = 4",
                 "draw(0, (ei^fj)gh) = 2", "factor(0, 1) = 5", "factor(0, 2) = 9", "factor(0, 4) = 10",
                 "factor(0, 7) = -2", "factor(0, -1) = -2");
+        eachFigure();
         Script.due("28 'm an int, not 0', the greatest and the least", "draw(0, (ab^cd)ef) = 2", "straight(0, 0)",
                 "most(1) = " + MAX, "times(2, 0, 1)", "factor(2, 0) = " + MAX, "factor(2, 6) = 6",
                 "add(3, 2, -1, 4, 0)", "factor(3, 0) = -2147483647", "draw(0, (ab^ce)df) = 2", "straight(0, 0) = 2",
                 "least(1) = " + MIN, "times(2, 0, 1) = 2", "factor(2, 0) = " + MIN, "factor(2, 3) = 3",
                 "factor(2, 4) = 5");
+    }
+
+    /** The 15 ways to have three lines of six letters: the first row of each, of what is -1, 2 and -2 times it, too. */
+    private static void eachFigure() {
+        String[] rows = { "abcdef", "abcedf", "abcfde", "acbdef", "acbedf", "acbfde", "adbcef", "adbecf", "adbfce",
+            "aebcdf", "aebdcf", "aebfcd", "afbcde", "afbdce", "afbecd" };
+        for (String r : rows) {
+            String pair = r.substring(2, 4);
+            Script script = new Script("28 'the first row of LETTERS', of " + r).rows(
+                    "draw(0, (" + r.substring(0, 2) + "^" + pair + ")" + r.substring(4) + ") = 2", "factor(0, 0) = 1",
+                    "draw(1, (" + pair + "^" + r.substring(0, 2) + ")" + r.substring(4) + ") = 2", "factor(1, 0) = -1",
+                    "add(2, 0, 2, 1, 0) = 2", "factor(2, 0) = 2", "add(3, 0, 1, 1, 3)", "factor(3, 0) = -2");
+            for (int what = 1; what <= 6; what++) {
+                int letter = r.charAt(what - 1) - 'a' + 1;
+                for (int s = 0; s < 4; s++) {
+                    script.rows("factor(" + s + ", " + what + ") = " + letter);
+                }
+            }
+        }
     }
 
     private static void finalOnes() {
