@@ -432,7 +432,9 @@ public final class PromiseBoundariesTest {
                 "times(1, 0, 5) = 80", "times(2, 1, 5) = 80", "times(3, 2, 5) = 80", "many(4, 81, 39) = 39",
                 "tell(5, 1+[abc]) = 2", "times(4, 4, 5) = 78", "tell(5, [abc]) = 1", "rank(63) = 6", "copy(5, 3) = 80",
                 "rank(63) = 5", "tell(5, 1) = 1", "rank(63) = 6", "tell(5, [hij][hij]) = 1", "rank(63) = 6",
-                "tell(0, [hij][hij][hij]) = 1", "rank(1) = 1", "rank(33) = 2", "rank(63) = 6");
+                "tell(0, [hij][hij][hij]) = 1", "rank(1) = 1", "rank(33) = 2", "rank(63) = 6", "many(0, 8, 80) = 80",
+                "tell(5, [abd]) = 1", "times(0, 0, 5) = 80", "rank(1) = 1", "times(1, 0, 5) = 80", "rank(3) = 2",
+                "tell(5, [abe][abf]) = 1", "rank(32) = 1", "rank(63) = 6");
         Script.due("27 'How many of some SHELVES', what was asked before counts no more",
                 "tell(0, [abc]+[abd]+[abe]) = 3", "tell(1, [abc]+2[abd]+3[abe]) = 3",
                 "tell(2, [abc]+4[abd]+9[abe]) = 3", "rank(7) = 3", "tell(0, [abc]) = 1", "tell(1, [abc]) = 1",
